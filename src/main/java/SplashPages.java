@@ -693,14 +693,19 @@ public final class SplashPages {
         private final Story[] states = new Story[MOST_SAVED];
         private int size = 0;
 
-        private void save(Story story) {
-            Story room = size < MOST_SAVED ? storyAt(size) : dropOldest();
-            if (room == null) {
-                room = new Story();
+        private History() {
+            for (int i = 0; i < MOST_SAVED; i++) {
+                states[i] = new Story();
             }
-            room.copyFrom(story);
-            if (size >= 0 && size < MOST_SAVED) {
-                states[size] = room;
+        }
+
+        private void save(Story story) {
+            if (size >= MOST_SAVED) {
+                dropOldest();
+            }
+            Story room = storyAt(size);
+            if (room != null) {
+                room.copyFrom(story);
                 size++;
             }
         }
@@ -717,13 +722,14 @@ public final class SplashPages {
             return index >= 0 && index < MOST_SAVED ? states[index] : null;
         }
 
-        private Story dropOldest() {
+        // The oldest one's rows are used again for the state that is saved next.
+        private void dropOldest() {
             Story oldest = states[0];
             for (int i = 0; i < MOST_SAVED - 1; i++) {
                 states[i] = states[i + 1];
             }
+            states[MOST_SAVED - 1] = oldest;
             size = MOST_SAVED - 1;
-            return oldest;
         }
     }
 

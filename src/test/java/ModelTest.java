@@ -3,7 +3,8 @@ import java.util.Random;
 /** The same random calls, good and wrong ones, on the program and on the model of the document. */
 public final class ModelTest {
     private static final int RUNS = 300;
-    private static final int CALLS = 200;
+    // An appended part may be three calls, several at once: this keeps a run below the 512 promised.
+    private static final int CALLS = 480;
 
     private interface Answer {
         long get();
@@ -38,8 +39,10 @@ public final class ModelTest {
     }
 
     private int wrong = 0;
+    private int made = 0;
 
     private void same(String call, Answer got, Answer want) {
+        made++;
         String answered = told(got);
         String due = told(want);
         if (!answered.equals(due)) {
@@ -62,7 +65,7 @@ public final class ModelTest {
         // Some runs have few beats, so that rows and not beats end a page; others mostly whole pages.
         most = random.nextInt(3) == 0 ? 2 : 9;
         boolean whole = random.nextInt(4) == 0;
-        for (int call = 0; call < CALLS && wrong == 0; call++) {
+        while (made < CALLS && wrong == 0) {
             int dice = random.nextInt(100);
             if (dice < 40) {
                 callPanels(random.nextInt(12), whole);
