@@ -1,12 +1,5 @@
 /** Each promise of the document with answers reckoned by hand: ordinary, at the edges, and wrong inputs. */
-public final class PromisesTest {
-    private static final Class<IndexOutOfBoundsException> INDEX = IndexOutOfBoundsException.class;
-    private static final Class<IllegalArgumentException> ARGUMENT = IllegalArgumentException.class;
-    private static final Class<IllegalStateException> STATE = IllegalStateException.class;
-    private static final int NONE = SplashPages.NONE;
-
-    private final Checks checks = new Checks();
-
+public final class PromisesTest extends Checks {
     public static void main(String[] args) {
         PromisesTest test = new PromisesTest();
         test.promise1NewObject();
@@ -39,61 +32,13 @@ public final class PromisesTest {
         test.pouringBleedsOnTheRight();
         test.pouringBleedsOnTheLeft();
         test.pouringLeavesOut();
-        test.checks.end();
-    }
-
-    // ---- helpers
-
-    private static SplashPages told(String text) {
-        SplashPages pages = new SplashPages();
-        write(pages, text);
-        pages.story();
-        return pages;
-    }
-
-    private static void write(SplashPages pages, String text) {
-        for (int i = 0; i < text.length(); i++) {
-            pages.append(text.charAt(i));
-        }
-    }
-
-    private void dueCount(SplashPages pages, int what, long want) {
-        checks.due("count(" + what + ")", pages.count(what), want);
-    }
-
-    private void duePlace(SplashPages pages, int panel, int page, int row, int unit) {
-        checks.due("panel " + panel + ": its page", pages.panel(panel, 3), page);
-        checks.due("panel " + panel + ": its row", pages.panel(panel, 4), row);
-        checks.due("panel " + panel + ": its unit", pages.panel(panel, 5), unit);
-    }
-
-    private void duePanel(SplashPages pages, int panel, int kind, int width, int beats) {
-        checks.due("panel " + panel + ": its kind", pages.panel(panel, 0), kind);
-        checks.due("panel " + panel + ": its width", pages.panel(panel, 1), width);
-        checks.due("panel " + panel + ": its beats", pages.panel(panel, 2), beats);
-    }
-
-    private void duePage(SplashPages pages, int page, int... wants) {
-        for (int what = 0; what < wants.length; what++) {
-            checks.due("page(" + page + ", " + what + ")", pages.page(page, what), wants[what]);
-        }
-    }
-
-    /** The units of a row from 0 on, a letter each panel from 'a' on, a dot for an empty one. */
-    private void dueRow(SplashPages pages, int page, int row, String want) {
-        StringBuilder got = new StringBuilder();
-        for (int unit = 0; unit < 6; unit++) {
-            int panel = pages.at(page, row, unit);
-            got.append(panel == NONE ? '.' : (char) ('a' + panel));
-        }
-        checks.due("page " + page + ", row " + row + " is " + got + ", due is " + want,
-                got.toString().equals(want) ? 1 : 0, 1);
+        test.end();
     }
 
     private void dueError(String text, int want) {
         SplashPages pages = new SplashPages();
         write(pages, text);
-        checks.due("firstError() of " + text, pages.firstError(), want);
+        due("firstError() of " + text, pages.firstError(), want);
     }
 
     // ---- promises
@@ -109,46 +54,46 @@ public final class PromisesTest {
         dueCount(pages, 6, 0);
         dueCount(pages, 7, 30);
         dueCount(pages, 8, 0);
-        checks.due("clearBuffer()", pages.clearBuffer(), 0);
-        checks.due("firstError()", pages.firstError(), 0);
+        due("clearBuffer()", pages.clearBuffer(), 0);
+        due("firstError()", pages.firstError(), 0);
         for (int page = 0; page < 16; page++) {
             duePage(pages, page, 0, 0, 24, NONE, 0, 0);
         }
-        checks.due("NONE", NONE, -1);
+        due("NONE", NONE, -1);
     }
 
     private void promise2Put() {
         SplashPages pages = new SplashPages();
-        checks.dueThrow("put(1, ..) first", pages, INDEX, () -> pages.put(1, 0, 1, 1));
-        checks.dueThrow("put(-1, ..)", pages, INDEX, () -> pages.put(-1, 0, 1, 1));
-        checks.dueThrow("put(MIN, ..)", pages, INDEX, () -> pages.put(Integer.MIN_VALUE, 9, 9, 99));
-        checks.dueThrow("put(MAX, ..)", pages, INDEX, () -> pages.put(Integer.MAX_VALUE, 9, 9, 99));
-        checks.dueThrow("kind -1", pages, ARGUMENT, () -> pages.put(0, -1, 1, 1));
-        checks.dueThrow("kind 4", pages, ARGUMENT, () -> pages.put(0, 4, 1, 1));
-        checks.dueThrow("width 0", pages, ARGUMENT, () -> pages.put(0, 0, 0, 1));
-        checks.dueThrow("width 7", pages, ARGUMENT, () -> pages.put(0, 0, 7, 1));
-        checks.dueThrow("width 7 of a splash", pages, ARGUMENT, () -> pages.put(0, 2, 7, 1));
-        checks.dueThrow("beats 0", pages, ARGUMENT, () -> pages.put(0, 0, 1, 0));
-        checks.dueThrow("beats 10", pages, ARGUMENT, () -> pages.put(0, 0, 1, 10));
+        dueThrow("put(1, ..) first", pages, INDEX, () -> pages.put(1, 0, 1, 1));
+        dueThrow("put(-1, ..)", pages, INDEX, () -> pages.put(-1, 0, 1, 1));
+        dueThrow("put(MIN, ..)", pages, INDEX, () -> pages.put(Integer.MIN_VALUE, 9, 9, 99));
+        dueThrow("put(MAX, ..)", pages, INDEX, () -> pages.put(Integer.MAX_VALUE, 9, 9, 99));
+        dueThrow("kind -1", pages, ARGUMENT, () -> pages.put(0, -1, 1, 1));
+        dueThrow("kind 4", pages, ARGUMENT, () -> pages.put(0, 4, 1, 1));
+        dueThrow("width 0", pages, ARGUMENT, () -> pages.put(0, 0, 0, 1));
+        dueThrow("width 7", pages, ARGUMENT, () -> pages.put(0, 0, 7, 1));
+        dueThrow("width 7 of a splash", pages, ARGUMENT, () -> pages.put(0, 2, 7, 1));
+        dueThrow("beats 0", pages, ARGUMENT, () -> pages.put(0, 0, 1, 0));
+        dueThrow("beats 10", pages, ARGUMENT, () -> pages.put(0, 0, 1, 10));
         dueCount(pages, 8, 0);
         for (int i = 0; i < 24; i++) {
-            checks.due("put", pages.put(i, i % 4, 1 + i % 6, 1 + i % 9), i + 1);
+            due("put", pages.put(i, i % 4, 1 + i % 6, 1 + i % 9), i + 1);
         }
         dueCount(pages, 0, 24);
         dueCount(pages, 8, 6);
-        checks.dueThrow("a 25th", pages, STATE, () -> pages.put(24, 0, 1, 1));
-        checks.dueThrow("a 25th with a wrong kind", pages, ARGUMENT, () -> pages.put(24, 4, 1, 1));
-        checks.dueThrow("a 25th at 25", pages, INDEX, () -> pages.put(25, 4, 1, 1));
+        dueThrow("a 25th", pages, STATE, () -> pages.put(24, 0, 1, 1));
+        dueThrow("a 25th with a wrong kind", pages, ARGUMENT, () -> pages.put(24, 4, 1, 1));
+        dueThrow("a 25th at 25", pages, INDEX, () -> pages.put(25, 4, 1, 1));
     }
 
     private void promise2PutBetween() {
         SplashPages pages = told("p11p22p33");
-        checks.due("put(1, ..)", pages.put(1, 2, 5, 9), 4);
+        due("put(1, ..)", pages.put(1, 2, 5, 9), 4);
         duePanel(pages, 0, 0, 1, 1);
         duePanel(pages, 1, 2, 5, 9);
         duePanel(pages, 2, 0, 2, 2);
         duePanel(pages, 3, 0, 3, 3);
-        checks.due("put(0, ..)", pages.put(0, 1, 6, 8), 5);
+        due("put(0, ..)", pages.put(0, 1, 6, 8), 5);
         duePanel(pages, 0, 1, 6, 8);
         duePanel(pages, 4, 0, 3, 3);
         duePlace(pages, 1, 0, 1, 0);
@@ -158,99 +103,99 @@ public final class PromisesTest {
 
     private void promise3Take() {
         SplashPages pages = told("p11b22s3d4");
-        checks.dueThrow("take(4)", pages, INDEX, () -> pages.take(4));
-        checks.dueThrow("take(-1)", pages, INDEX, () -> pages.take(-1));
-        checks.due("take(1)", pages.take(1), 3);
+        dueThrow("take(4)", pages, INDEX, () -> pages.take(4));
+        dueThrow("take(-1)", pages, INDEX, () -> pages.take(-1));
+        due("take(1)", pages.take(1), 3);
         duePanel(pages, 0, 0, 1, 1);
         duePanel(pages, 1, 2, 6, 3);
         duePanel(pages, 2, 3, 6, 4);
-        checks.due("take(2)", pages.take(2), 2);
-        checks.due("take(0)", pages.take(0), 1);
+        due("take(2)", pages.take(2), 2);
+        due("take(0)", pages.take(0), 1);
         duePlace(pages, 0, 0, NONE, NONE);
-        checks.due("take(0)", pages.take(0), 0);
+        due("take(0)", pages.take(0), 0);
         dueCount(pages, 1, 0);
         dueCount(pages, 8, 5);
-        checks.dueThrow("take(0) without a panel", pages, INDEX, () -> pages.take(0));
+        dueThrow("take(0) without a panel", pages, INDEX, () -> pages.take(0));
         SplashPages full = new SplashPages();
         for (int i = 0; i < 24; i++) {
             full.put(i, 0, 1 + i % 6, 1 + i % 9);
         }
-        checks.due("take(0) of 24", full.take(0), 23);
+        due("take(0) of 24", full.take(0), 23);
         duePanel(full, 22, 0, 6, 6);
-        checks.due("undo of it", full.undo(), 5);
-        checks.due("take(23)", full.take(23), 23);
-        checks.due("take(0) of 23", full.take(0), 22);
+        due("undo of it", full.undo(), 5);
+        due("take(23)", full.take(23), 23);
+        due("take(0) of 23", full.take(0), 22);
         duePanel(full, 0, 0, 2, 2);
         duePanel(full, 21, 0, 5, 5);
     }
 
     private void promise4Change() {
         SplashPages pages = told("p39p39p39b11");
-        checks.due("to 9 beats: 36 are above 30", pages.change(3, 1, 9), 2);
+        due("to 9 beats: 36 are above 30", pages.change(3, 1, 9), 2);
         duePlace(pages, 3, 1, 0, 5);
         duePanel(pages, 3, 1, 1, 9);
-        checks.due("to 3 beats: 30 are not above 30", pages.change(3, 6, 3), 1);
+        due("to 3 beats: 30 are not above 30", pages.change(3, 6, 3), 1);
         duePlace(pages, 3, 0, 2, 0);
         dueCount(pages, 8, 3);
-        checks.due("no change", pages.change(3, 6, 3), 1);
+        due("no change", pages.change(3, 6, 3), 1);
         dueCount(pages, 8, 4);
-        checks.dueThrow("change(4, ..)", pages, INDEX, () -> pages.change(4, 1, 1));
-        checks.dueThrow("change(-1, ..)", pages, INDEX, () -> pages.change(-1, 0, 0));
-        checks.dueThrow("width 0", pages, ARGUMENT, () -> pages.change(0, 0, 1));
-        checks.dueThrow("width 7", pages, ARGUMENT, () -> pages.change(0, 7, 1));
-        checks.dueThrow("beats 0", pages, ARGUMENT, () -> pages.change(0, 1, 0));
-        checks.dueThrow("beats 10", pages, ARGUMENT, () -> pages.change(0, 1, 10));
+        dueThrow("change(4, ..)", pages, INDEX, () -> pages.change(4, 1, 1));
+        dueThrow("change(-1, ..)", pages, INDEX, () -> pages.change(-1, 0, 0));
+        dueThrow("width 0", pages, ARGUMENT, () -> pages.change(0, 0, 1));
+        dueThrow("width 7", pages, ARGUMENT, () -> pages.change(0, 7, 1));
+        dueThrow("beats 0", pages, ARGUMENT, () -> pages.change(0, 1, 0));
+        dueThrow("beats 10", pages, ARGUMENT, () -> pages.change(0, 1, 10));
         SplashPages splash = told("s1");
-        checks.due("a splash", splash.change(0, 2, 9), 1);
+        due("a splash", splash.change(0, 2, 9), 1);
         duePanel(splash, 0, 2, 2, 9);
         duePage(splash, 0, 1, 9, 0);
     }
 
     private void promise5Set() {
         SplashPages pages = told("p15p15p15");
-        checks.due("set(9)", pages.set(9), 30);
+        due("set(9)", pages.set(9), 30);
         dueCount(pages, 1, 3);
-        checks.due("set(10)", pages.set(10), 9);
+        due("set(10)", pages.set(10), 9);
         dueCount(pages, 1, 2);
-        checks.due("set(60)", pages.set(60), 10);
+        due("set(60)", pages.set(60), 10);
         dueCount(pages, 1, 1);
-        checks.due("set(60) again", pages.set(60), 60);
+        due("set(60) again", pages.set(60), 60);
         dueCount(pages, 7, 60);
         dueCount(pages, 8, 5);
-        checks.dueThrow("set(8)", pages, ARGUMENT, () -> pages.set(8));
-        checks.dueThrow("set(61)", pages, ARGUMENT, () -> pages.set(61));
-        checks.dueThrow("set(MIN)", pages, ARGUMENT, () -> pages.set(Integer.MIN_VALUE));
+        dueThrow("set(8)", pages, ARGUMENT, () -> pages.set(8));
+        dueThrow("set(61)", pages, ARGUMENT, () -> pages.set(61));
+        dueThrow("set(MIN)", pages, ARGUMENT, () -> pages.set(Integer.MIN_VALUE));
     }
 
     private void promise6Append() {
         SplashPages pages = new SplashPages();
-        checks.dueThrow("append(32)", pages, ARGUMENT, () -> pages.append(32));
-        checks.dueThrow("append(127)", pages, ARGUMENT, () -> pages.append(127));
-        checks.dueThrow("append(-1)", pages, ARGUMENT, () -> pages.append(-1));
-        checks.due("append(33)", pages.append(33), 1);
-        checks.due("append(126)", pages.append(126), 2);
+        dueThrow("append(32)", pages, ARGUMENT, () -> pages.append(32));
+        dueThrow("append(127)", pages, ARGUMENT, () -> pages.append(127));
+        dueThrow("append(-1)", pages, ARGUMENT, () -> pages.append(-1));
+        due("append(33)", pages.append(33), 1);
+        due("append(126)", pages.append(126), 2);
         for (int length = 3; length <= 60; length++) {
-            checks.due("append", pages.append('p'), length);
+            due("append", pages.append('p'), length);
         }
-        checks.dueThrow("a 61st", pages, STATE, () -> pages.append('p'));
-        checks.dueThrow("a 61st that is no code", pages, ARGUMENT, () -> pages.append(32));
+        dueThrow("a 61st", pages, STATE, () -> pages.append('p'));
+        dueThrow("a 61st that is no code", pages, ARGUMENT, () -> pages.append(32));
         dueCount(pages, 8, 0);
     }
 
     private void promise7ClearBuffer() {
         SplashPages pages = new SplashPages();
-        checks.due("empty", pages.clearBuffer(), 0);
+        due("empty", pages.clearBuffer(), 0);
         write(pages, "p1x");
-        checks.due("three", pages.clearBuffer(), 3);
-        checks.due("again", pages.clearBuffer(), 0);
+        due("three", pages.clearBuffer(), 3);
+        due("again", pages.clearBuffer(), 0);
         write(pages, "s1");
-        checks.due("what is behind it is read from the start", pages.firstError(), 2);
+        due("what is behind it is read from the start", pages.firstError(), 2);
         dueCount(pages, 8, 0);
         for (int i = 2; i < 60; i++) {
             pages.append('s');
         }
-        checks.due("sixty", pages.clearBuffer(), 60);
-        checks.due("append behind it", pages.append('d'), 1);
+        due("sixty", pages.clearBuffer(), 60);
+        due("append behind it", pages.append('d'), 1);
     }
 
     private void promise8FirstError() {
@@ -283,20 +228,20 @@ public final class PromisesTest {
         for (String wrong : new String[] {"", "p", "p1", "p11b", "p11b2", "s", "s1d", "x", "p11x", "s1,", "p70"}) {
             pages.clearBuffer();
             write(pages, wrong);
-            checks.dueThrow("story() of " + wrong, pages, ARGUMENT, pages::story);
+            dueThrow("story() of " + wrong, pages, ARGUMENT, pages::story);
         }
         dueCount(pages, 8, 0);
         pages.clearBuffer();
         write(pages, "p34b52s7d8");
-        checks.due("story()", pages.story(), 4);
+        due("story()", pages.story(), 4);
         duePanel(pages, 0, 0, 3, 4);
         duePanel(pages, 1, 1, 5, 2);
         duePanel(pages, 2, 2, 6, 7);
         duePanel(pages, 3, 3, 6, 8);
-        checks.due("the buffer behind it", pages.clearBuffer(), 0);
+        due("the buffer behind it", pages.clearBuffer(), 0);
         dueCount(pages, 8, 1);
         write(pages, "p11");
-        checks.due("behind the others", pages.story(), 1);
+        due("behind the others", pages.story(), 1);
         duePanel(pages, 4, 0, 1, 1);
         dueCount(pages, 8, 2);
     }
@@ -307,23 +252,23 @@ public final class PromisesTest {
             pages.put(i, 0, 1, 1);
         }
         write(pages, "p25s3b44");
-        checks.due("two come", pages.story(), 2);
+        due("two come", pages.story(), 2);
         dueCount(pages, 0, 24);
         duePanel(pages, 22, 0, 2, 5);
         duePanel(pages, 23, 2, 6, 3);
-        checks.due("the buffer", pages.clearBuffer(), 0);
+        due("the buffer", pages.clearBuffer(), 0);
         write(pages, "s1");
-        checks.due("none comes", pages.story(), 0);
-        checks.due("the buffer if none comes", pages.clearBuffer(), 0);
-        checks.due("undo of none", pages.undo(), 5);
+        due("none comes", pages.story(), 0);
+        due("the buffer if none comes", pages.clearBuffer(), 0);
+        due("undo of none", pages.undo(), 5);
         dueCount(pages, 0, 24);
-        checks.due("undo of two, as one call", pages.undo(), 4);
+        due("undo of two, as one call", pages.undo(), 4);
         dueCount(pages, 0, 22);
     }
 
     private void promise10Undo() {
         SplashPages pages = new SplashPages();
-        checks.dueThrow("undo() first", pages, STATE, pages::undo);
+        dueThrow("undo() first", pages, STATE, pages::undo);
         pages.put(0, 0, 1, 1);
         pages.put(1, 1, 2, 2);
         pages.change(1, 3, 4);
@@ -331,30 +276,30 @@ public final class PromisesTest {
         pages.set(40);
         pages.set(40);
         dueCount(pages, 8, 6);
-        checks.due("undo of a set that changes nothing", pages.undo(), 5);
+        due("undo of a set that changes nothing", pages.undo(), 5);
         dueCount(pages, 7, 40);
-        checks.due("undo of set", pages.undo(), 4);
+        due("undo of set", pages.undo(), 4);
         dueCount(pages, 7, 30);
-        checks.due("undo of take", pages.undo(), 3);
+        due("undo of take", pages.undo(), 3);
         dueCount(pages, 0, 2);
         duePanel(pages, 0, 0, 1, 1);
         duePanel(pages, 1, 1, 3, 4);
-        checks.due("undo of change", pages.undo(), 2);
+        due("undo of change", pages.undo(), 2);
         duePanel(pages, 1, 1, 2, 2);
-        checks.due("undo of put", pages.undo(), 1);
-        checks.due("undo of put", pages.undo(), 0);
+        due("undo of put", pages.undo(), 1);
+        due("undo of put", pages.undo(), 0);
         dueCount(pages, 0, 0);
-        checks.dueThrow("undo() behind them", pages, STATE, pages::undo);
+        dueThrow("undo() behind them", pages, STATE, pages::undo);
         for (int beats = 10; beats <= 17; beats++) {
             pages.set(beats);
         }
         for (int left = 5; left >= 0; left--) {
-            checks.due("undo", pages.undo(), left);
+            due("undo", pages.undo(), left);
             dueCount(pages, 7, 11 + left);
         }
-        checks.dueThrow("the oldest ones are dropped", pages, STATE, pages::undo);
+        dueThrow("the oldest ones are dropped", pages, STATE, pages::undo);
         pages.set(50);
-        checks.due("undo behind drops", pages.undo(), 0);
+        due("undo behind drops", pages.undo(), 0);
         dueCount(pages, 7, 11);
     }
 
@@ -362,12 +307,12 @@ public final class PromisesTest {
         SplashPages pages = told("p11");
         write(pages, "b2");
         dueCount(pages, 1, 1);
-        checks.due("undo", pages.undo(), 0);
+        due("undo", pages.undo(), 0);
         dueCount(pages, 0, 0);
         dueCount(pages, 1, 0);
         duePage(pages, 0, 0, 0, 24, NONE, 0, 0);
-        checks.due("the buffer stays", pages.firstError(), 2);
-        checks.due("the buffer stays", pages.clearBuffer(), 2);
+        due("the buffer stays", pages.firstError(), 2);
+        due("the buffer stays", pages.clearBuffer(), 2);
     }
 
     private void promise11Panel() {
@@ -376,11 +321,11 @@ public final class PromisesTest {
         duePlace(pages, 1, 0, 1, 0);
         duePlace(pages, 2, 1, NONE, NONE);
         duePlace(pages, 3, 2, NONE, NONE);
-        checks.dueThrow("panel(4, 0)", pages, INDEX, () -> pages.panel(4, 0));
-        checks.dueThrow("panel(4, 6)", pages, INDEX, () -> pages.panel(4, 6));
-        checks.dueThrow("panel(-1, 0)", pages, INDEX, () -> pages.panel(-1, 0));
-        checks.dueThrow("panel(0, 6)", pages, ARGUMENT, () -> pages.panel(0, 6));
-        checks.dueThrow("panel(0, -1)", pages, ARGUMENT, () -> pages.panel(0, -1));
+        dueThrow("panel(4, 0)", pages, INDEX, () -> pages.panel(4, 0));
+        dueThrow("panel(4, 6)", pages, INDEX, () -> pages.panel(4, 6));
+        dueThrow("panel(-1, 0)", pages, INDEX, () -> pages.panel(-1, 0));
+        dueThrow("panel(0, 6)", pages, ARGUMENT, () -> pages.panel(0, 6));
+        dueThrow("panel(0, -1)", pages, ARGUMENT, () -> pages.panel(0, -1));
     }
 
     private void promise12Page() {
@@ -394,11 +339,11 @@ public final class PromisesTest {
         duePage(pages, 6, 3, 4, 18, 5, 0, 2);
         duePage(pages, 7, 0, 0, 24, NONE, 0, 0);
         duePage(pages, 15, 0, 0, 24, NONE, 0, 0);
-        checks.dueThrow("page(16, 0)", pages, INDEX, () -> pages.page(16, 0));
-        checks.dueThrow("page(16, 6)", pages, INDEX, () -> pages.page(16, 6));
-        checks.dueThrow("page(-1, 0)", pages, INDEX, () -> pages.page(-1, 0));
-        checks.dueThrow("page(0, 6)", pages, ARGUMENT, () -> pages.page(0, 6));
-        checks.dueThrow("page(15, -1)", pages, ARGUMENT, () -> pages.page(15, -1));
+        dueThrow("page(16, 0)", pages, INDEX, () -> pages.page(16, 0));
+        dueThrow("page(16, 6)", pages, INDEX, () -> pages.page(16, 6));
+        dueThrow("page(-1, 0)", pages, INDEX, () -> pages.page(-1, 0));
+        dueThrow("page(0, 6)", pages, ARGUMENT, () -> pages.page(0, 6));
+        dueThrow("page(15, -1)", pages, ARGUMENT, () -> pages.page(15, -1));
     }
 
     private void promise13At() {
@@ -415,12 +360,12 @@ public final class PromisesTest {
         }
         dueRow(pages, 2, 0, "e.....");
         dueRow(pages, 6, 0, "gg....");
-        checks.dueThrow("at(16, 0, 0)", pages, INDEX, () -> pages.at(16, 0, 0));
-        checks.dueThrow("at(-1, 0, 0)", pages, INDEX, () -> pages.at(-1, 0, 0));
-        checks.dueThrow("at(0, 4, 0)", pages, INDEX, () -> pages.at(0, 4, 0));
-        checks.dueThrow("at(0, -1, 0)", pages, INDEX, () -> pages.at(0, -1, 0));
-        checks.dueThrow("at(0, 0, 6)", pages, INDEX, () -> pages.at(0, 0, 6));
-        checks.dueThrow("at(0, 0, -1)", pages, INDEX, () -> pages.at(0, 0, -1));
+        dueThrow("at(16, 0, 0)", pages, INDEX, () -> pages.at(16, 0, 0));
+        dueThrow("at(-1, 0, 0)", pages, INDEX, () -> pages.at(-1, 0, 0));
+        dueThrow("at(0, 4, 0)", pages, INDEX, () -> pages.at(0, 4, 0));
+        dueThrow("at(0, -1, 0)", pages, INDEX, () -> pages.at(0, -1, 0));
+        dueThrow("at(0, 0, 6)", pages, INDEX, () -> pages.at(0, 0, 6));
+        dueThrow("at(0, 0, -1)", pages, INDEX, () -> pages.at(0, 0, -1));
     }
 
     private void promise14Count() {
@@ -434,8 +379,8 @@ public final class PromisesTest {
         dueCount(pages, 6, 8);
         dueCount(pages, 7, 30);
         dueCount(pages, 8, 1);
-        checks.dueThrow("count(9)", pages, ARGUMENT, () -> pages.count(9));
-        checks.dueThrow("count(-1)", pages, ARGUMENT, () -> pages.count(-1));
+        dueThrow("count(9)", pages, ARGUMENT, () -> pages.count(9));
+        dueThrow("count(-1)", pages, ARGUMENT, () -> pages.count(-1));
         // The last used page faces one that is not used; pages 1 and 2 do not face each other.
         SplashPages single = told("p19s9p13");
         dueCount(single, 6, 3);
@@ -450,39 +395,39 @@ public final class PromisesTest {
         SplashPages pages = told("p11d9b22");
         dueCount(pages, 1, 5);
         dueCount(pages, 5, 23 + 22);
-        checks.due("pages of 0 and 1", pages.ifExchanged(0, 0), 3);
-        checks.due("empty of 0 and 1", pages.ifExchanged(0, 1), 21);
-        checks.due("pages of 1 and 2", pages.ifExchanged(1, 0), 4);
-        checks.due("empty of 1 and 2", pages.ifExchanged(1, 1), 21);
+        due("pages of 0 and 1", pages.ifExchanged(0, 0), 3);
+        due("empty of 0 and 1", pages.ifExchanged(0, 1), 21);
+        due("pages of 1 and 2", pages.ifExchanged(1, 0), 4);
+        due("empty of 1 and 2", pages.ifExchanged(1, 1), 21);
         duePanel(pages, 0, 0, 1, 1);
         duePanel(pages, 1, 3, 6, 9);
         dueCount(pages, 8, 1);
-        checks.dueThrow("none behind it", pages, INDEX, () -> pages.ifExchanged(2, 0));
-        checks.dueThrow("no such panel", pages, INDEX, () -> pages.ifExchanged(3, 2));
-        checks.dueThrow("panel -1", pages, INDEX, () -> pages.ifExchanged(-1, 0));
-        checks.dueThrow("panel MAX", pages, INDEX, () -> pages.ifExchanged(Integer.MAX_VALUE, 0));
-        checks.dueThrow("what 2", pages, ARGUMENT, () -> pages.ifExchanged(0, 2));
-        checks.dueThrow("what -1", pages, ARGUMENT, () -> pages.ifExchanged(1, -1));
-        checks.dueThrow("what 2 of the last", pages, INDEX, () -> pages.ifExchanged(2, 2));
+        dueThrow("none behind it", pages, INDEX, () -> pages.ifExchanged(2, 0));
+        dueThrow("no such panel", pages, INDEX, () -> pages.ifExchanged(3, 2));
+        dueThrow("panel -1", pages, INDEX, () -> pages.ifExchanged(-1, 0));
+        dueThrow("panel MAX", pages, INDEX, () -> pages.ifExchanged(Integer.MAX_VALUE, 0));
+        dueThrow("what 2", pages, ARGUMENT, () -> pages.ifExchanged(0, 2));
+        dueThrow("what -1", pages, ARGUMENT, () -> pages.ifExchanged(1, -1));
+        dueThrow("what 2 of the last", pages, INDEX, () -> pages.ifExchanged(2, 2));
         SplashPages empty = new SplashPages();
-        checks.dueThrow("without panels", empty, INDEX, () -> empty.ifExchanged(0, 0));
+        dueThrow("without panels", empty, INDEX, () -> empty.ifExchanged(0, 0));
     }
 
     private void promise16LeastSetting() {
         SplashPages pages = new SplashPages();
-        checks.due("without panels", pages.leastSetting(), 9);
+        due("without panels", pages.leastSetting(), 9);
         pages.set(9);
-        checks.due("at the least", pages.leastSetting(), 9);
+        due("at the least", pages.leastSetting(), 9);
         SplashPages three = told("p15p15p15");
-        checks.due("15 beats on one page", three.leastSetting(), 15);
+        due("15 beats on one page", three.leastSetting(), 15);
         three.set(14);
-        checks.due("two pages", three.leastSetting(), 10);
+        due("two pages", three.leastSetting(), 10);
         three.set(9);
-        checks.due("three pages", three.leastSetting(), 9);
+        due("three pages", three.leastSetting(), 9);
         dueCount(three, 7, 9);
         // All rows are filled, so the panel behind them is on the next page anyhow.
         SplashPages rows = told("p61p61p61p61p69");
-        checks.due("rows end the page", rows.leastSetting(), 9);
+        due("rows end the page", rows.leastSetting(), 9);
     }
 
     private void promise16LeastSettingWithLeftOut() {
@@ -490,50 +435,50 @@ public final class PromisesTest {
         SplashPages pages = told("p16p16d1d1d1d1d1d1d1");
         dueCount(pages, 1, 16);
         dueCount(pages, 3, 0);
-        checks.due("the blank page serves as well", pages.leastSetting(), 9);
+        due("the blank page serves as well", pages.leastSetting(), 9);
         SplashPages splashes = told("p16p16s1s1s1s1s1s1s1s1s1s1s1s1s1s1s1");
         dueCount(splashes, 1, 16);
         dueCount(splashes, 3, 0);
-        checks.due("no more are left out", splashes.leastSetting(), 12);
+        due("no more are left out", splashes.leastSetting(), 12);
         splashes.set(11);
         dueCount(splashes, 3, 1);
-        checks.due("as many are left out", splashes.leastSetting(), 9);
+        due("as many are left out", splashes.leastSetting(), 9);
     }
 
     private void promise17BestWidth() {
         SplashPages pages = told("p31");
-        checks.due("alone: the widest leaves least empty", pages.bestWidth(0), 6);
+        due("alone: the widest leaves least empty", pages.bestWidth(0), 6);
         SplashPages row = told("p41p41p61p61p61");
         dueCount(row, 1, 2);
-        checks.due("one page less, as wide as it may be", row.bestWidth(0), 2);
-        checks.due("one page less, of the second", row.bestWidth(1), 2);
+        due("one page less, as wide as it may be", row.bestWidth(0), 2);
+        due("one page less, of the second", row.bestWidth(1), 2);
         duePanel(row, 0, 0, 4, 1);
         dueCount(row, 8, 1);
         SplashPages splash = told("p11s5d5");
-        checks.due("of a splash the least", splash.bestWidth(1), 1);
-        checks.due("of a spread the least", splash.bestWidth(2), 1);
+        due("of a splash the least", splash.bestWidth(1), 1);
+        due("of a spread the least", splash.bestWidth(2), 1);
         // No width leaves one out here, so the pages decide: two rows for the first two cost a page.
         SplashPages full = told("p41p61p61p61p61s1s1s1s1s1s1s1s1s1s1s1s1s1s1");
         dueCount(full, 3, 0);
-        checks.due("none is left out at any width", full.bestWidth(1), 2);
+        due("none is left out at any width", full.bestWidth(1), 2);
         SplashPages out = told("p41p61p61p61p21s1s1s1s1s1s1s1s1s1s1s1s1s1s1s1");
         dueCount(out, 3, 1);
-        checks.due("a splash less left out", out.bestWidth(0), 6);
-        checks.due("one row for two: none left out", out.bestWidth(4), 6);
-        checks.due("the second as short as the first leaves room", out.bestWidth(1), 2);
-        checks.dueThrow("bestWidth(-1)", out, INDEX, () -> out.bestWidth(-1));
-        checks.dueThrow("bestWidth(20)", out, INDEX, () -> out.bestWidth(20));
+        due("a splash less left out", out.bestWidth(0), 6);
+        due("one row for two: none left out", out.bestWidth(4), 6);
+        due("the second as short as the first leaves room", out.bestWidth(1), 2);
+        dueThrow("bestWidth(-1)", out, INDEX, () -> out.bestWidth(-1));
+        dueThrow("bestWidth(20)", out, INDEX, () -> out.bestWidth(20));
         SplashPages empty = new SplashPages();
-        checks.dueThrow("without panels", empty, INDEX, () -> empty.bestWidth(0));
+        dueThrow("without panels", empty, INDEX, () -> empty.bestWidth(0));
     }
 
     private void promise18Fullness() {
         SplashPages pages = new SplashPages();
-        checks.dueShare("without panels", pages.fullness(), 1.0);
-        checks.dueShare("one unit", told("p11").fullness(), 1.0 / 24.0);
-        checks.dueShare("a splash", told("s1").fullness(), 1.0);
-        checks.dueShare("the blank page does not count", told("p11d9").fullness(), 49.0 / 72.0);
-        checks.dueShare("the shift ahead of a bleeding one counts", told("s1p11b21").fullness(), 27.0 / 48.0);
+        dueShare("without panels", pages.fullness(), 1.0);
+        dueShare("one unit", told("p11").fullness(), 1.0 / 24.0);
+        dueShare("a splash", told("s1").fullness(), 1.0);
+        dueShare("the blank page does not count", told("p11d9").fullness(), 49.0 / 72.0);
+        dueShare("the shift ahead of a bleeding one counts", told("s1p11b21").fullness(), 27.0 / 48.0);
     }
 
     private void promise19Digest() {
@@ -587,8 +532,8 @@ public final class PromisesTest {
         for (int i = 0; i < buffer.length(); i++) {
             want = 31 * want + buffer.charAt(i);
         }
-        checks.due("digest()", pages.digest(), want);
-        checks.due("digest() again", pages.digest(), want);
+        due("digest()", pages.digest(), want);
+        due("digest() again", pages.digest(), want);
     }
 
     // ---- pouring
